@@ -493,7 +493,7 @@ public final class SoundHarbour {
     private int worthOfLead(int ship, int d) {
         int all = known.size();
         int below = known.sizeBelow(d);
-        if (all == 0 || below == 0) {
+        if (all == 0 || below == 0 || below == all) {
             return 0;
         }
         int deepestLeft = known.least + below - 1;
@@ -763,13 +763,16 @@ public final class SoundHarbour {
         final int[] found = new int[MOST_SHIPS];
         final int[] waits = new int[MOST_SHIPS];
         private final Port port;
-        private final int[] water = new int[MOST_SHIPS * MOST_BERTHS * STARTS];
-        /** How many of the ships from each one on have any berth at all. */
+        /** The least water of each ship's stay, by berth and, within it, waiting. */
+        private final int[][] water = new int[MOST_SHIPS][MOST_BERTHS * STARTS];
+        /** In how many ways, by berth and waiting, each ship can lie safe if it is alone. */
+        private final int[] places = new int[MOST_SHIPS];
+        /** How many of the ships from each one on have any place at all. */
         private final int[] hopes = new int[MOST_SHIPS + 1];
         private final int[] trial = new int[MOST_SHIPS];
         private final int[] shipsIn = new int[MOST_BERTHS];
         private int mostFound;
-        private int most;
+        private int mostNow;
         private int lastShip;
         private int lastPlaces;
         private int lastGrowth;
@@ -783,62 +786,69 @@ public final class SoundHarbour {
             for (int ship = 0; ship < port.ships; ship++) {
                 for (int berth = 0; berth < port.berths; berth++) {
                     for (int wait = 0; wait <= port.settings[WAIT]; wait++) {
-                        water[placeAt(ship, berth, wait)] =
+                        water[ship][STARTS * berth + wait] =
                                 port.leastWater(berth, port.arrives[ship] + wait, port.stays[ship], day);
                     }
                 }
             }
         }
 
-        private static int placeAt(int ship, int berth, int wait) {
-            return (ship * MOST_BERTHS + berth) * STARTS + wait;
-        }
-
         int findMost() {
-            most = search(NONE);
-            return most;
+            for (int ship = 0; ship < port.ships; ship++) {
+                places[ship] = placesOf(ship, need[ship]);
+            }
+            mostNow = search(NONE);
+            return mostNow;
         }
 
-        /** By how many the most grows if a ship needs less; places are nested, so as many are the same. */
+        /** By how many the most grows if a ship needs less; its places only grow, so as many are the same. */
         int growthBy(int ship, int lessNeed) {
-            int places = placesOf(ship, lessNeed);
-            if (places == placesOf(ship, need[ship])) {
+            int morePlaces = placesOf(ship, lessNeed);
+            if (morePlaces == places[ship]) {
                 return 0;
             }
-            if (ship != lastShip || places != lastPlaces) {
-                int before = need[ship];
-                need[ship] = lessNeed;
-                lastGrowth = search(most) - most;
-                need[ship] = before;
+            if (ship != lastShip || morePlaces != lastPlaces) {
+                lastGrowth = growthWith(ship, lessNeed, morePlaces);
                 lastShip = ship;
-                lastPlaces = places;
+                lastPlaces = morePlaces;
             }
             return lastGrowth;
         }
 
+        private int growthWith(int ship, int lessNeed, int morePlaces) {
+            int needBefore = need[ship];
+            int placesBefore = places[ship];
+            need[ship] = lessNeed;
+            places[ship] = morePlaces;
+            int growth = search(mostNow) - mostNow;
+            need[ship] = needBefore;
+            places[ship] = placesBefore;
+            return growth;
+        }
+
         private int placesOf(int ship, int needed) {
-            int places = 0;
+            int sum = 0;
             for (int berth = 0; berth < port.berths; berth++) {
-                places += placesIn(berth, ship, needed);
+                sum += placesIn(berth, ship, needed);
             }
-            return places;
+            return sum;
         }
 
         private int placesIn(int berth, int ship, int needed) {
-            int places = 0;
+            int sum = 0;
             for (int wait = 0; wait <= port.settings[WAIT]; wait++) {
-                if (needed <= water[placeAt(ship, berth, wait)]) {
-                    places++;
+                if (needed <= water[ship][STARTS * berth + wait]) {
+                    sum++;
                 }
             }
-            return places;
+            return sum;
         }
 
         /** The most, or atLeast if there is no row of more than that. */
         private int search(int atLeast) {
             hopes[port.ships] = 0;
             for (int ship = port.ships - 1; ship >= 0; ship--) {
-                hopes[ship] = hopes[ship + 1] + (placesOf(ship, need[ship]) > 0 ? 1 : 0);
+                hopes[ship] = hopes[ship + 1] + (places[ship] > 0 ? 1 : 0);
             }
             for (int berth = 0; berth < port.berths; berth++) {
                 shipsIn[berth] = 0;
@@ -882,7 +892,7 @@ public final class SoundHarbour {
             long stay = (1L << port.stays[ship]) - 1 << port.arrives[ship];
             for (int wait = 0; wait <= port.settings[WAIT]; wait++) {
                 long hours = stay << wait;
-                if (need[ship] <= water[placeAt(ship, berth, wait)] && (hours & taken) == 0) {
+                if (need[ship] <= water[ship][STARTS * berth + wait] && (hours & taken) == 0) {
                     waits[ship] = wait;
                     if (fits(berth, set, ship + 1, taken | hours)) {
                         return true;
