@@ -82,6 +82,10 @@ public final class BerthsTest {
         CHECK.noSuch("no person", () -> x.most(1, 0));
         CHECK.noSuch("no day", () -> x.most(0, -1));
         CHECK.noSuch("no day", () -> x.most(0, 10000));
+        SoundHarbour five = Check.harbour("wait 2;ship 1 1 0 12;ship 2 2 0 12;ship 3 3 0 12;ship 4 4 0 12;"
+                + "ship 5 5 0 12;person;stone 5;stone 4;stone 3;stone 2;stone 1;");
+        CHECK.is("five ships, each its own berth", five.most(0, 0), 5);
+        row("five ships, each its own berth", five, "43210", "00000");
         SoundHarbour late = Check.harbour("ship 1 1 23 12;ship 1 1 0 11;ship 1 1 10 1;person;dock 1;");
         CHECK.is("hours go on above 23", late.most(0, 0), 2);
         row("hours go on above 23", late, "00-", "00-");
@@ -115,6 +119,13 @@ public final class BerthsTest {
         SoundHarbour y = Check.harbour("tide 6;wait 2;ship 5 5 23 1;ship 5 5 1 1;person;stone 3;");
         CHECK.is("they wait for the tide", y.most(0, 0), 1);
         row("they wait for the tide", y, "-0", "-1");
+        SoundHarbour two = Check.harbour("tide 6;wait 2;ship 5 5 0 1;ship 5 5 0 1;ship 5 5 10 1;person;"
+                + "stone 4;stone 3;");
+        CHECK.is("each berth has its own hour", two.most(0, 0), 3);
+        row("each berth has its own hour", two, "000", "120");
+        SoundHarbour each = Check.harbour("tide 6;wait 2;ship 5 5 0 2;ship 5 5 0 2;person;stone 4;stone 3;");
+        CHECK.is("they wait in two berths", each.most(0, 0), 2);
+        row("they wait in two berths", each, "01", "12");
         SoundHarbour z = Check.harbour("tide 6;wait 2;ship 2 2 0 1;ship 1 1 1 1;person;stone 0;");
         CHECK.is("the tide and each other", z.most(0, 0), 2);
         row("the tide and each other", z, "00", "20");
@@ -220,6 +231,16 @@ public final class BerthsTest {
         none.lead(0, 0, 7, true);
         best(none, "none is worth anything", 0, 101, 0);
         best(Check.harbour("person;"), "no ships", 0, NONE, NONE);
+        best(Check.harbour("ship 0 60 0 1;person;stone 59;"), "the deepest lead", 0, 60, 983);
+        SoundHarbour again = Check.harbour("ship 5 10 0 2;ship 9 9 0 2;person;stone 9 silt 9;");
+        best(again, "the berth is the second ship's", 0, 1, 0);
+        again.load(1, 99);
+        best(again, "it doesn't sink", 0, 1, 0);
+        Check.tell(again, "ship 5 10 0 2;ship 9 9 0 2 sink 1;person;stone 9;");
+        again.load(1, 10);
+        best(again, "the second can't lie there by its load", 0, 10, 833);
+        again.load(1, 0);
+        best(again, "it can again", 0, 1, 0);
         CHECK.noSuch("what 2", () -> x.best(0, 2));
         CHECK.noSuch("what -1", () -> x.best(0, -1));
         CHECK.noSuch("no person", () -> x.best(2, 0));
@@ -271,6 +292,7 @@ public final class BerthsTest {
         CHECK.is("at high water", x.aground(0, 0, 0, 5, 10, 0), 0);
         CHECK.is("keel 4 can't be", x.aground(0, 0, 0, 0, 4, 0), NONE);
         CHECK.is("keel 11 can't be", x.aground(0, 0, 0, 0, 11, 0), NONE);
+        CHECK.is("keel 5, the least", x.aground(0, 0, 0, 0, 5, 0), 0);
         x.load(0, 19);
         CHECK.is("keel 8 and a load", x.aground(0, 0, 0, 0, 8, 0), 1);
         CHECK.is("keel 7 and a load", x.aground(0, 0, 0, 0, 7, 0), 0);
@@ -292,6 +314,10 @@ public final class BerthsTest {
         x.word(3, 0, 0, 8, false, 0);
         CHECK.is("he sold it", x.aground(0, 0, 0, 0, 9, 1), 13);
         CHECK.is("it wasn't told then", x.aground(0, 0, 0, 0, 9, 0), 1);
+        SoundHarbour edge = Check.harbour("ship 5 10 0 1;person;person;stone 7;");
+        edge.word(1, 0, 0, 8, false, 0);
+        CHECK.is("a keel of the word's own depth", edge.aground(0, 0, 0, 0, 8, 1), 11);
+        CHECK.is("the keel just below", edge.aground(0, 0, 0, 0, 7, 1), 0);
         CHECK.is("it wasn't told to him", x.aground(1, 0, 0, 0, 9, 1), 1);
         x.word(2, 0, 1, 8, false, 0);
         CHECK.is("of another ship", x.aground(0, 0, 0, 0, 9, 2), 13);

@@ -47,6 +47,8 @@ public final class NamesTest {
         CHECK.is("no ship", x.names(0), 0);
         CHECK.noSuch("names(3)", () -> x.names(3));
         CHECK.noSuch("names(-2)", () -> x.names(-2));
+        SoundHarbour zero = Check.harbour("ship 0 0 0 1;ship 60 60 0 1;");
+        CHECK.is("at first 0 to 60", zero.names(NONE), 2);
         SoundHarbour five = Check.harbour("ship 0 60 0 1;".repeat(5));
         CHECK.is("120 rows", five.names(NONE), 120);
         CHECK.is("five ships", five.names(4), 31);
@@ -114,6 +116,16 @@ public final class NamesTest {
             CHECK.is("count(" + what + ")", x.count(what), 1);
         }
         CHECK.is("NAMES", x.names(0), 2);
+        x.name(1, 6, 9);
+        x.name(0, 6, 6);
+        x.image();
+        x.name(0, 0, 6);
+        x.name(1, 6, 60);
+        x.restore();
+        x.lead(1, 1, 6, false);
+        CHECK.is("where a NAME begins", x.names(NONE), 0);
+        x.undo();
+        CHECK.is("NAMES as before", x.names(NONE), 1);
         CHECK.is("paid", x.person(1, 0), 4);
         CHECK.is("was paid", x.person(0, 1), 4);
         CHECK.is("the word", x.span(1, 1, 2, 1), 8);

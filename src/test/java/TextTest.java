@@ -73,6 +73,10 @@ public final class TextTest {
         for (int what = 0; what < 7; what++) {
             CHECK.is("count(" + what + ") of it", x.count(what), what == 1 ? 1 : 0);
         }
+        CHECK.is("without sink and silt", Check.tell(x, "ship 1 2 3 4;stone 9;"), 0);
+        CHECK.is("SINK of the text before is gone", x.ship(0, 4), 0);
+        CHECK.is("SILT of the text before is gone", x.berth(0, 0, 9999), 9);
+        CHECK.is("sink 0, silt 0", Check.tell(x, "ship 1 2 3 4 sink 0;stone 9 silt 0;"), 0);
         CHECK.is("an empty text", x.harbour(0), 0);
         CHECK.is("nobody is there", x.count(1), 0);
     }
@@ -115,6 +119,14 @@ public final class TextTest {
         fault("tide;", 1, 4);
         fault("sink 5;", 1, 0);
         fault("shipperson;", 1, 0);
+        fault("xhip 1 1 1 1;", 1, 0);
+        fault("personz;", 1, 0);
+        fault("persona;", 1, 0);
+        fault("person`;", 1, 6);
+        fault("person{;", 1, 6);
+        fault("fee 1/;", 1, 5);
+        fault("fee 1:;", 1, 5);
+        fault("fee 9;fee", 3, 6);
     }
 
     private static void faultsOfNumbers() {
@@ -219,6 +231,12 @@ public final class TextTest {
         CHECK.is("harbour(20)", x.harbour(20), 0);
         CHECK.is("persons", x.count(1), 1);
         CHECK.illegal("harbour(1) of an empty tape", () -> x.harbour(1));
+        Check.feed(x, "person;");
+        CHECK.is("a word that is cut off", x.harbour(5), 1);
+        CHECK.is("its place", x.fault(), 0);
+        Check.feed(x, "fee 12;");
+        CHECK.is("a line that is cut off", x.harbour(5), 1);
+        CHECK.is("its place", x.fault(), 5);
     }
 
     private static void counts() {
