@@ -741,7 +741,7 @@ public final class SoundHarbour {
         void tellWithout(int ship, int liarSet, Span into) {
             into.beginWith(port.low[ship], port.high[ship]);
             for (int i = 0; i < events; i++) {
-                boolean isTaken = seller[i] == NONE || (liarSet >> seller[i] & 1) == 0;
+                boolean isTaken = seller[i] == NONE || (liarSet & 1 << seller[i]) == 0;
                 if (isTaken && shipOf[i] == ship) {
                     into.narrow(depthOf[i], touching[i]);
                 }
@@ -886,10 +886,10 @@ public final class SoundHarbour {
             if (ship >= port.ships) {
                 return true;
             }
-            if ((set >> ship & 1) == 0) {
+            if ((set & 1 << ship) == 0) {
                 return fits(berth, set, ship + 1, taken);
             }
-            long stay = (1L << port.stays[ship]) - 1 << port.arrives[ship];
+            long stay = ((1L << port.stays[ship]) - 1) << port.arrives[ship];
             for (int wait = 0; wait <= port.settings[WAIT]; wait++) {
                 long hours = stay << wait;
                 if (need[ship] <= water[ship][STARTS * berth + wait] && (hours & taken) == 0) {

@@ -150,7 +150,7 @@ public final class EventsTest {
     }
 
     private static void eightyEvents() {
-        SoundHarbour x = Check.harbour("ship 5 10 0 1;person;person;");
+        SoundHarbour x = Check.harbour("ship 5 10 0 1;person;person;stone 8;");
         for (int i = 1; i <= 80; i++) {
             CHECK.is("word " + i, x.word(i % 2, 1 - i % 2, 0, 7, true, 1), i);
         }
@@ -161,6 +161,19 @@ public final class EventsTest {
         CHECK.is("the 80th event, a lead", x.lead(0, 0, 7, true), 80);
         CHECK.is("EVENTS", x.count(7), 80);
         CHECK.is("span behind 80", x.span(0, 0, 80, 0), 7);
+        CHECK.illegal("span behind 81", () -> x.span(0, 0, 81, 0));
+        CHECK.is("bought and lowered", x.person(0, 0), 40);
+        x.image();
+        x.undo();
+        x.undo();
+        x.word(0, 1, 0, 9, false, 0);
+        x.word(0, 1, 0, 10, true, 0);
+        CHECK.is("an image of 80 events", x.restore(), true);
+        CHECK.is("his span again", x.span(1, 0, 80, 1), 10);
+        x.undo();
+        x.word(1, 0, 0, 9, false, 0);
+        CHECK.is("aground by the 80th word", x.aground(0, 0, 0, 0, 10, 80), 11);
+        CHECK.is("liars", x.liars(), 0);
     }
 
     private static void undoing() {
