@@ -186,6 +186,11 @@ public final class BerthEdgesTest {
         EDGE.same("the first ROW", Edges.row(x), "0 0");
         x.most(0, 99);
         EDGE.same("another one in its place", Edges.row(x), "- -");
+        SoundHarbour fewer = Check.harbour("ship 1 1 0 1;".repeat(5) + "person;stone 1;stone 1;stone 1;");
+        EDGE.is("five ships", fewer.most(0, 0), 3);
+        Check.tell(fewer, "ship 1 1 0 1;ship 1 1 0 1;ship 1 1 0 1;person;stone 1;");
+        EDGE.is("fewer ships in another harbour", fewer.most(0, 0), 1);
+        EDGE.same("fewer ships in another harbour", Edges.row(fewer), "0-- 0--");
     }
 
     private static void hoursOfBerths() {
@@ -214,6 +219,10 @@ public final class BerthEdgesTest {
         most("for the tide, an hour too few", "tide 6;wait 1;ship 2 2 0 1;person;stone 0;", 0, "- -");
         most("for the tide", "tide 6;wait 2;ship 2 2 0 1;person;stone 0;", 1, "0 2");
         most("not earlier", "tide 6;wait 2;ship 1 1 12 12;person;stone 0;", 0, "- -");
+        most("for the tide in the first of two", "tide 6;wait 2;ship 2 2 0 1;person;stone 0;stone 1;", 1, "0 2");
+        most("a dock keeps the tide", "tide 6;wait 2;ship 2 2 0 1;person;dock 0;stone 0;", 1, "0 0");
+        most("for the tide in the last of five", "tide 6;wait 2;ship 7 7 0 1;person;stone 4;stone 4;stone 4;stone 4;stone 5;", 1,
+                "4 2");
         most("from hour 25 on", "tide 6;wait 2;ship 1 1 23 3;person;stone 0;", 1, "0 2");
     }
 
@@ -382,6 +391,17 @@ public final class BerthEdgesTest {
         SoundHarbour silt = Check.harbour("ship 4 10 0 1;person;stone 9 silt 9;");
         silt.most(0, 9999);
         EDGE.is("behind most() of another DAY", silt.worth(0, 0, 10), 857);
+        SoundHarbour now = Check.harbour("ship 4 10 0 1;ship 1 9 0 1 sink 1;person;person;stone 9;");
+        EDGE.is("the other ship has the berth", now.worth(0, 0, 10), 0);
+        now.load(1, 10);
+        EDGE.is("it is loaded now", now.worth(0, 0, 10), 857);
+        now.word(1, 0, 1, 9, false, 0);
+        EDGE.is("its KEEL is known now", now.worth(0, 0, 10), 0);
+        EDGE.is("not by the other person", now.worth(1, 0, 10), 857);
+        now.undo();
+        EDGE.is("it is undone", now.worth(0, 0, 10), 857);
+        now.lead(0, 0, 6, true);
+        EDGE.is("he lowered one there already", now.worth(0, 0, 10), 800);
     }
 
     private static void worthOfNothing() {
@@ -440,6 +460,7 @@ public final class BerthEdgesTest {
         x.word(0, 1, 1, 5, true, 0);
         best(x, "WORDS are no LEADS", 1, 10, 833);
         best(Check.harbour("person;stone 9;"), "beside no ship at all", 0, NONE, NONE);
+        best(Check.harbour("ship 4 10 0 1;person;stone 9 silt 9;"), "on DAY 0", 0, 10, 857);
         best(Check.harbour("ship 0 60 0 1;person;stone 59;"), "the deepest LEAD", 0, 60, 983);
         best(Check.harbour("ship 0 60 0 1;person;stone 0;"), "the least deep LEAD", 0, 1, 16);
         best(Check.harbour("ship 1 1 0 1;ship 1 1 0 1;ship 1 1 0 1;ship 1 1 0 1;ship 3 9 0 1;person;stone 8;stone 8;stone 8;"
@@ -459,6 +480,8 @@ public final class BerthEdgesTest {
         EDGE.term(20, "that of greatest WORTH, of like ones the least SHIP, then the least depth (1 to 60).");
         best(Check.harbour("ship 5 10 0 1;ship 4 10 0 1;person;stone 9;"), "the greater of a later ship", 0, 110, 857);
         best(Check.harbour("ship 5 10 0 1;ship 15 20 0 1;person;stone 9;stone 19;"), "no LEAD helps alone", 0, 1, 0);
+        best(Check.harbour("ship 5 10 0 1;ship 5 10 5 1;ship 1 1 0 1;person;stone 9;"), "one hour is taken", 0, 110, 833);
+        best(Check.harbour("ship 5 10 0 1;ship 9 9 0 1;person;stone 9;stone 7;"), "one berth is taken", 0, 8, 500);
         best(Check.harbour("ship 5 20 0 1;ship 5 20 0 1;person;stone 9;stone 9;"), "like ones of two ships", 0, 10, 312);
         best(Check.harbour("ship 5 10 0 1;ship 5 10 0 1;person;stone 10;stone 10;"), "no worth at all", 0, 1, 0);
         best(Check.harbour("ship 5 10 0 1;ship 5 10 0 1;person;"), "no berths", 0, 1, 0);
@@ -647,6 +670,14 @@ public final class BerthEdgesTest {
         x.undo();
         x.word(1, 0, 0, 8, false, 0);
         EDGE.is("two WORDS of one seller", x.aground(0, 0, 0, 0, 9, 2), 2);
+        SoundHarbour many = Check.harbour("ship 5 10 0 1;person;person;stone 8;");
+        for (int i = 1; i <= 79; i++) {
+            many.word(1, 0, 0, 10, false, 0);
+        }
+        many.word(1, 0, 0, 9, false, 0);
+        EDGE.is("79 WORDS that aren't enough", many.aground(0, 0, 0, 0, 10, 79), 1);
+        EDGE.is("the 80th did it alone", many.aground(0, 0, 0, 0, 10, 80), 11);
+        EDGE.is("it is true by KEEL 8", many.aground(0, 0, 0, 0, 8, 80), 0);
     }
 
     private static void agroundRefused() {

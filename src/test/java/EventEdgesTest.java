@@ -515,6 +515,13 @@ public final class EventEdgesTest {
         EDGE.is("he lies of another ship, too", x.liars(), 1);
         x.word(1, 2, 0, 11, true, 0);
         EDGE.is("so does the other", x.liars(), 3);
+        for (int ship = 0; ship < 5; ship++) {
+            SoundHarbour five = Check.harbour("ship 5 9 0 1;ship 6 9 0 1;ship 7 9 0 1;ship 8 9 0 1;ship 9 9 0 1;person;person;");
+            five.word(1, 0, ship, 5 + ship, true, 0);
+            EDGE.is("five ships, no lie of ship " + ship, five.liars(), 0);
+            five.word(1, 0, ship, 5 + ship, false, 0);
+            EDGE.is("five ships, a lie of ship " + ship, five.liars(), 2);
+        }
     }
 
     private static void liarsOfAsSmall() {

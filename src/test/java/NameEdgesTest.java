@@ -16,6 +16,7 @@ public final class NameEdgesTest {
         images();
         imagesAreApart();
         restoring();
+        restoringNames();
         noImage();
         EDGE.end(24, 27);
     }
@@ -318,6 +319,26 @@ public final class NameEdgesTest {
         y.undo();
         y.restore();
         EDGE.is("he lowered one in the image", y.lead(0, 0, 6, false), NONE);
+    }
+
+    private static void restoringNames() {
+        EDGE.term(27, "AN IMAGE keeps EVENTS, LOADS, NAMES, STATUS.");
+        int[][] spans = {{0, 10, 1}, {20, 60, 2}, {5, 20, 3}};
+        for (int[] one : spans) {
+            for (int name = 0; name < 2; name++) {
+                SoundHarbour x = Check.harbour("ship 5 10 0 1;ship 20 30 0 1;");
+                x.name(name, one[0], one[1]);
+                x.image();
+                x.name(name, 0, 60);
+                EDGE.is("a wider span", x.names(name), 3);
+                x.restore();
+                EDGE.is("NAME " + name + " from " + one[0] + " to " + one[1], x.names(name), one[2]);
+                x.name(name, 0, 0);
+                EDGE.is("a span of no ship", x.names(name), 0);
+                x.restore();
+                EDGE.is("NAME " + name + " from " + one[0] + " to " + one[1] + " again", x.names(name), one[2]);
+            }
+        }
     }
 
     private static void noImage() {

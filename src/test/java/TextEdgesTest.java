@@ -6,6 +6,7 @@ public final class TextEdgesTest {
     private static final int[] FAR = {Integer.MIN_VALUE, Integer.MIN_VALUE + 1, Integer.MAX_VALUE - 1, Integer.MAX_VALUE};
 
     public static void main(String[] args) {
+        theConstant();
         aNewObject();
         theLastCalls();
         feeding();
@@ -31,6 +32,11 @@ public final class TextEdgesTest {
         textsThatEndTooSoon();
         secondSettings();
         EDGE.end(1, 5);
+    }
+
+    private static void theConstant() {
+        EDGE.term(1, "The constants: `NONE = -1`: There is none.");
+        EDGE.is("NONE", SoundHarbour.NONE, -1);
     }
 
     private static void aNewObject() {
@@ -241,6 +247,11 @@ public final class TextEdgesTest {
         EDGE.is("STATUS is not among them", x.count(9) * 100 + x.count(10) * 10 + x.count(11), 11);
         EDGE.is("what he paid", x.person(0, 0), 0);
         EDGE.is("he may lower a lead again", x.lead(0, 0, 9, true), 1);
+        x.name(0, 60, 60);
+        x.name(1, 0, 0);
+        EDGE.is("NAMES for no ship", x.names(NONE), 0);
+        Check.tell(x, text);
+        EDGE.is("both ends of their spans are gone", x.names(NONE), 2);
         SoundHarbour empty = busy();
         EDGE.is("a text of no byte", empty.harbour(0), 0);
         EDGE.is("its EVENTS", empty.count(7), 0);
@@ -442,6 +453,8 @@ public final class TextEdgesTest {
         text("persona;", 1, 0);
         text("personz;", 1, 0);
         text("zperson;", 1, 0);
+        text("qerson;", 1, 0);
+        text("persom;", 1, 0);
         text("personperson;", 1, 0);
         text("perso n;", 1, 0);
         text("ship1 1 1 1sink1;", 0, NONE);
