@@ -1,13 +1,21 @@
+import java.io.IOException;
 import java.lang.reflect.Constructor;
 import java.lang.reflect.Field;
 import java.lang.reflect.Method;
 import java.lang.reflect.Modifier;
+import java.nio.file.Files;
+import java.nio.file.Path;
 import java.util.ArrayList;
 import java.util.Arrays;
 import java.util.List;
 import java.util.TreeSet;
+import java.util.regex.Matcher;
+import java.util.regex.Pattern;
 
-/** The public face is the document's, and no other member of the class can be seen from outside. */
+/**
+ * The public face is the document's, and no other member of the class can be seen from outside; its file has nothing
+ * that LANGUAGE.md leaves out and that can be seen word by word.
+ */
 public final class FaceTest {
     private static final Check CHECK = new Check();
 
@@ -40,7 +48,11 @@ public final class FaceTest {
         "boolean restore()",
     };
 
-    public static void main(String[] args) {
+    /** Nothing in the class needs to catch, so that none of what the machine throws can be an answer. */
+    private static final String[] LEFT_OUT = {"catch", "finally", "synchronized", "assert", "package", "protected",
+        "yield", "native", "transient", "volatile", "double", "float"};
+
+    public static void main(String[] args) throws IOException {
         Class<?> face = SoundHarbour.class;
         CHECK.is("the class is public and final",
                 Modifier.isPublic(face.getModifiers()) && Modifier.isFinal(face.getModifiers()), true);
@@ -56,7 +68,37 @@ public final class FaceTest {
         CHECK.is("the constructor is public", Modifier.isPublic(constructors[0].getModifiers()), true);
         CHECK.is("the constructor's parameters", constructors[0].getParameterCount(), 0);
         inside(face, publicNames);
+        file();
         CHECK.end();
+    }
+
+    private static void file() throws IOException {
+        String source = Files.readString(Path.of("src/main/java/SoundHarbour.java"))
+                .replaceAll("(?s)/\\*.*?\\*/", " ").replaceAll("//[^\n]*", " ").replaceAll("\"[^\"\n]*\"", "TEXT");
+        CHECK.is("imports", matches(source, "import [^;]*;").equals(List.of("import java.util.NoSuchElementException;")),
+                true);
+        for (String word : LEFT_OUT) {
+            CHECK.is("rules 1 to 6: " + word, matches(source, "\\b" + word + "\\b").size(), 0);
+        }
+        CHECK.is("rule 2: lambdas and method references", matches(source, "->|::").size(), 0);
+        CHECK.is("rule 5: initialiser blocks", matches(source, "static\\s*\\{").size(), 0);
+        for (String call : matches(source, "\\b(Math|Integer|Long|System|Arrays)\\.\\w+")) {
+            CHECK.is("rule 4: " + call, List.of("Math.max", "Math.min", "Math.abs", "Integer.bitCount",
+                    "System.arraycopy").contains(call), true);
+        }
+        for (String made : matches(source, "throw [^;]*;")) {
+            CHECK.is("rule 6: " + made,
+                    made.matches("throw new (NoSuchElement|IllegalArgument)Exception\\(TEXT\\);"), true);
+        }
+    }
+
+    private static List<String> matches(String source, String pattern) {
+        List<String> found = new ArrayList<>();
+        Matcher matcher = Pattern.compile(pattern).matcher(source);
+        while (matcher.find()) {
+            found.add(matcher.group());
+        }
+        return found;
     }
 
     private static TreeSet<String> methods(Class<?> face) {
